@@ -9,8 +9,8 @@ public final class SkeletonClock {
 
     private static final int SLOTS = 6;
     private static final int TEXT_ROOM = 60;
-    // Twenty pieces, none of them longer than a year such as +1000000000.
-    private static final int PAGE_ROOM = 220;
+    // Twenty pieces, none of them longer than a year such as +999999999.
+    private static final int PAGE_ROOM = 200;
     private static final int MOST_PIECES = 20;
     private static final int FIRST_CODE = 32;
     private static final int LAST_CODE = 126;

@@ -204,6 +204,10 @@ public final class SkeletonClock {
         return isSlot(slot) ? slots[slot] : null;
     }
 
+    private static boolean isYearField(int field) {
+        return field == YEAR || field == WEEK_YEAR;
+    }
+
     private static int partOf(int field) {
         if (field <= WEEK) {
             return DATE;
@@ -737,7 +741,7 @@ public final class SkeletonClock {
                 draft.put((char) number);
             } else if (pattern.isName(piece)) {
                 writeName(kind, number, moment.value(kind));
-            } else if (kind == YEAR || kind == WEEK_YEAR) {
+            } else if (isYearField(kind)) {
                 writeYear(moment.value(kind), number);
             } else if (kind == NANO) {
                 writeNano(moment.value(NANO), number);
@@ -936,7 +940,7 @@ public final class SkeletonClock {
                 return NONE;
             }
             int value = text.number(place, count);
-            if (field == YEAR || field == WEEK_YEAR) {
+            if (isYearField(field)) {
                 value += 2000;
             }
             if (field == NANO) {
@@ -968,12 +972,11 @@ public final class SkeletonClock {
         /** The sign that stands before the digits of a year; NONE when there is none that may. */
         private int signOf(Row text, int field, int count) {
             int code = text.codeAt(place);
-            boolean isYear = field == YEAR || field == WEEK_YEAR;
-            return isYear && (code == '-' || code == '+' && count == 4) ? code : NONE;
+            return isYearField(field) && (code == '-' || code == '+' && count == 4) ? code : NONE;
         }
 
         private static int mostDigits(int field) {
-            if (field == YEAR || field == WEEK_YEAR) {
+            if (isYearField(field)) {
                 return 9;
             }
             return field == YEAR_DAY ? 3 : 2;

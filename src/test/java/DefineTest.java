@@ -129,6 +129,10 @@ public final class DefineTest {
         check.due("the text went", Check.textLength(clock), 0);
         Check.define(clock, 0, "d");
         check.due("slots are apart", clock.print(5), 2);
+        check.due("a fault inside a quote", Check.define(clock, 0, "'123456789012345678901'"), 21);
+        check.due("the next text begins outside of it", Check.define(clock, 0, "q"), 0);
+        check.due("a section that does not end", Check.define(clock, 0, "[u"), 2);
+        check.due("the next text begins outside of it", Check.define(clock, 0, "]"), 0);
         Check.type(clock, "Md");
         clock.match();
         check.due("a wish is no pattern of a slot", clock.print(0), 1);

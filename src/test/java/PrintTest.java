@@ -152,6 +152,16 @@ public final class PrintTest {
         check.due("page", Check.page(clock), "-999999999".repeat(14));
     }
 
+    private static void sectionsDoNotLinger() {
+        SkeletonClock clock = new SkeletonClock();
+        Check.define(clock, 0, "-[[d]]");
+        Check.define(clock, 1, "H");
+        clock.moment(0L, 0, 0, 1);
+        check.due("print(0)", clock.print(0), 2);
+        check.due("print(1)", clock.print(1), SkeletonClock.NONE);
+        check.due("the page stayed", Check.page(clock), "-1");
+    }
+
     public static void main(String[] args) {
         years();
         numbersAndNames();
@@ -161,6 +171,7 @@ public final class PrintTest {
         sections();
         missingFields();
         slotsAndPages();
+        sectionsDoNotLinger();
         check.finish();
     }
 }

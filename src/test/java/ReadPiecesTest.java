@@ -221,6 +221,7 @@ public final class ReadPiecesTest {
             offset(x, "-05", -300);
             offset(x, "+0530", 330);
             offset(x, "-0530", -330);
+            offset(x, "+0559", 359);
             offset(x, "+00", 0);
             offset(x, "-00", 0);
             offset(x + "'3'", "+053", 300);

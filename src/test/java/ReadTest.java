@@ -77,10 +77,33 @@ public final class ReadTest {
         check.due("not loose any more", clock.read(3, 0, false), 0);
     }
 
+    private static void readingsAreApart() {
+        SkeletonClock clock = new SkeletonClock();
+        Check.define(clock, 0, "h-[[a]]");
+        Check.type(clock, "3-PM");
+        check.due("h and a are used", clock.read(0, 0, false), SkeletonClock.NONE);
+        Check.define(clock, 1, "H h");
+        Check.type(clock, "13 2");
+        check.due("h is not used here", clock.read(1, 0, false), SkeletonClock.CLASH);
+        Check.type(clock, "3-PM");
+        clock.read(0, 0, false);
+        Check.type(clock, "q");
+        check.due("the sections of the one before are closed", clock.read(1, 0, false), 0);
+        check.due("what was read", Check.latest(clock), "2 54000 0 0");
+        Check.define(clock, 2, "u-D");
+        Check.type(clock, "2024-1");
+        clock.read(2, 0, false);
+        check.due("the date", clock.seconds(), 1704067200L);
+        Check.type(clock, "13 1");
+        clock.read(1, 0, false);
+        check.due("nothing of it is in a time", clock.seconds(), 46800L);
+    }
+
     public static void main(String[] args) {
         refusals();
         whatStays();
         failuresAreForgotten();
+        readingsAreApart();
         check.finish();
     }
 }

@@ -1,11 +1,17 @@
 /** What the tests have in common: comparing answers with what is due, and short ways to call the clock. */
 final class Check {
     private int wrong = 0;
+    private String sentence = "";
+
+    /** The sentence of the document that the next comparisons are about. */
+    void sentence(String words) {
+        sentence = "\"" + words + "\": ";
+    }
 
     void due(String call, long got, long want) {
         if (got != want) {
             wrong++;
-            System.out.println(call + " answered " + got + ", due is " + want);
+            System.out.println(sentence + call + " answered " + got + ", due is " + want);
         }
     }
 
@@ -16,7 +22,7 @@ final class Check {
     void due(String call, String got, String want) {
         if (!got.equals(want)) {
             wrong++;
-            System.out.println(call + " answered \"" + got + "\", due is \"" + want + "\"");
+            System.out.println(sentence + call + " answered \"" + got + "\", due is \"" + want + "\"");
         }
     }
 

@@ -7,7 +7,9 @@ import java.util.Random;
 public final class RefusalTest {
     private static final int RUNS = 3000;
     private static final int MOST_CALLS = 512;
-    private static final int PROBE_CALLS = 150;
+    // Enough for one more round of calls and for looking at everything behind it.
+    private static final int LAST_CALLS = 180;
+    private static final int[] PLACES = {0, 1, 2, 4, 5, 10, 28, 59, 60, 79, 199};
     private static final String[] PATTERNS = {"u-M-d", "H:m:s", "X", "uuuu-MM-dd'T'HH:mm[:ss][XXX]", "[u][H]", "EEE d MMM u",
         "", "uYuYuYuYuYuYuYuYuYuY", "SSSSSSSSS-".repeat(6), "MMMMEEEEMMMMEEEEMMMMEEEE" + "MMMMEEEE", "h a"};
     private static final String[] WISHES = {"", "u", "uMd", "Hms", "X", "MMM", "ha"};
@@ -20,6 +22,7 @@ public final class RefusalTest {
     private final SkeletonClock asked = new SkeletonClock();
     private int calls = 0;
     private int typed = 0;
+    private int printed = 0;
 
     private RefusalTest(Check check, long seed) {
         this.check = check;
@@ -58,7 +61,7 @@ public final class RefusalTest {
 
     private void ordinary() {
         int slot = random.nextInt(6);
-        switch (random.nextInt(8)) {
+        switch (random.nextInt(9)) {
             case 0, 1 -> {
                 type(oneOf(PATTERNS));
                 same("define", plain.define(slot), asked.define(slot));
@@ -74,11 +77,15 @@ public final class RefusalTest {
                 int parts = 1 + random.nextInt(7);
                 same("moment", plain.moment(seconds, 5, 0, parts) ? 1 : 0, asked.moment(seconds, 5, 0, parts) ? 1 : 0);
             }
-            case 4 -> same("print", plain.print(slot), asked.print(slot));
+            case 4 -> {
+                int answer = plain.print(slot);
+                same("print", answer, asked.print(slot));
+                printed = answer < 0 ? printed : answer;
+            }
             case 5 -> {
                 boolean good = plain.copy();
                 same("copy", good ? 1 : 0, asked.copy() ? 1 : 0);
-                typed = good ? Check.page(plain).length() : typed;
+                typed = good ? printed : typed;
             }
             case 6 -> {
                 int style = random.nextInt(3);
@@ -86,6 +93,7 @@ public final class RefusalTest {
                 same("read", answer, asked.read(slot, style, false));
                 typed = answer == SkeletonClock.REFUSED ? typed : 0;
             }
+            case 7 -> type("1");
             default -> same("take", plain.take() ? 1 : 0, asked.take() ? 1 : 0);
         }
     }
@@ -117,7 +125,7 @@ public final class RefusalTest {
         if (typed == 60) {
             refused("type", asked.type('a'));
         }
-        if (Check.page(plain).length() > 60) {
+        if (printed > 60) {
             refused("copy", asked.copy());
         }
         calls += 8;
@@ -148,10 +156,14 @@ public final class RefusalTest {
         }
     }
 
-    private void probe() {
-        for (int p = 0; p <= 60; p += 4) {
+    private void samePage() {
+        for (int p : PLACES) {
             same("charAt", plain.charAt(p), asked.charAt(p));
         }
+    }
+
+    private void lookAtEverything() {
+        samePage();
         for (char letter : "uMdDEwYHhamsSXx".toCharArray()) {
             same("field " + letter, plain.field(letter), asked.field(letter));
         }
@@ -160,20 +172,21 @@ public final class RefusalTest {
         same("the text", plain.define(0), asked.define(0));
         for (int slot = 0; slot < 6; slot++) {
             same("print", plain.print(slot), asked.print(slot));
-            check.due("page", Check.page(asked), Check.page(plain));
         }
+        samePage();
         same("match", plain.match(), asked.match());
         same("distance", plain.distance(), asked.distance());
+        check.due("more than 512 calls", calls + 4 > MOST_CALLS, false);
     }
 
     private void run() {
-        while (calls < MOST_CALLS - PROBE_CALLS) {
+        while (calls < MOST_CALLS - LAST_CALLS) {
             ordinary();
             alwaysRefused();
             refusedNow();
             refusedWithText();
         }
-        probe();
+        lookAtEverything();
     }
 
     public static void main(String[] args) {

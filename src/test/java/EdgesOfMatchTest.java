@@ -131,15 +131,13 @@ public final class EdgesOfMatchTest {
     private static void refusalsAndTheText() {
         check.sentence("REFUSED when the text is no such wish; otherwise NONE when no slot has a pattern. "
             + "The text is empty then, in any case.");
-        SkeletonClock none = with();
-        SkeletonClock one = with("u");
         for (String wish : new String[] {"q", "uuu", "uMu", "-", "[", "'", "q".repeat(60), "-".repeat(60)}) {
-            answers(none, wish, SkeletonClock.REFUSED);
-            answers(one, wish, SkeletonClock.REFUSED);
+            answers(with(), wish, SkeletonClock.REFUSED);
+            answers(with("u"), wish, SkeletonClock.REFUSED);
         }
         for (String wish : new String[] {"", "u", ALL, "M"}) {
-            answers(none, wish, SkeletonClock.NONE);
-            answers(one, wish, 0);
+            answers(with(), wish, SkeletonClock.NONE);
+            answers(with("u"), wish, 0);
         }
     }
 
